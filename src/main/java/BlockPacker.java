@@ -188,13 +188,13 @@ public final class BlockPacker {
         }
         int over = length - LEAST_MATCH;
         int e = Math.max(bitsIn(over) - 3, 0);
-        return over < 4 ? 257 + over : 257 + 4 * e + (over >> e);
+        return 257 + 4 * e + (over >> e);
     }
 
     private static int symbolForDistance(int distance) {
         int over = distance - 1;
         int e = Math.max(bitsIn(over) - 2, 0);
-        return over < 4 ? over : 2 * e + (over >> e);
+        return 2 * e + (over >> e);
     }
 
     private static int bitsIn(int number) {
@@ -465,20 +465,13 @@ public final class BlockPacker {
             if (kind < 0) {
                 return SHORT_FAULT;
             }
-            switch (kind) {
-                case STORED:
-                    return readStored(in, out);
-                case FIXED:
-                    return readSymbols(in, out, fixedSymbols, fixedDistances);
-                case MADE:
-                    return readMade(in, out);
-                default:
-                    return KIND_FAULT;
+            if (kind == STORED) {
+                return readStored(in, out);
             }
-        }
-
-        private int readMade(Row in, Row out) {
-            int fault = readCodes(in);
+            if (kind == FIXED) {
+                return readSymbols(in, out, fixedSymbols, fixedDistances);
+            }
+            int fault = kind == MADE ? readCodes(in) : KIND_FAULT;
             return fault == FINE ? readSymbols(in, out, madeSymbols, madeDistances) : fault;
         }
 
@@ -1057,7 +1050,7 @@ public final class BlockPacker {
                 }
                 int length = matcher.length;
                 int distance = matcher.distance;
-                // What is found one place on is kept: if it is longer, it is the match that is looked at next.
+                // What is found one place on stays in the matcher: if it is longer, it is what p looks at next.
                 known = lazy && length > 0;
                 if (known) {
                     matcher.find(in, p + 1, end, chain);

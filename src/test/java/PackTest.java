@@ -11,6 +11,7 @@ public final class PackTest {
         edges();
         matches();
         blocks();
+        kindsOfSameBits();
         longCodes();
         manyRows();
         refusals();
@@ -77,7 +78,8 @@ public final class PackTest {
 
     private static void edges() throws DataFormatException {
         all("nothing", new byte[0]);
-        for (int n : new int[] {1, 2, 3, 4, 5, 257, 258, 259, 260, 261, 262, 516, 517, 518, 4095, 4096, 4097, 8191, 8192}) {
+        int[] sizes = {1, 2, 3, 4, 5, 257, 258, 259, 260, 261, 262, 516, 517, 518, 4095, 4096, 4097, 8191, 8192};
+        for (int n : sizes) {
             all("zeros", new byte[n]);
             all("even bytes", even(n, n));
         }
@@ -104,9 +106,8 @@ public final class PackTest {
         }
         for (int distance = 1; distance <= 4000; distance += distance < 40 ? 1 : 97) {
             byte[] bytes = even(8192, distance);
-            System.arraycopy(bytes, 4096 + 40 - distance, bytes, 4096 + 40, distance < 40 ? 50 : 40);
-            for (int i = 0; i < 50 && distance < 40; i++) {
-                bytes[4136 + i] = bytes[4136 + i - distance];
+            for (int i = 4136; i < 4186; i++) {
+                bytes[i] = bytes[i - distance];
             }
             whole("a distance of " + distance, bytes, 4, false);
         }
@@ -142,23 +143,59 @@ public final class PackTest {
         }
     }
 
+    /** Rows for which two kinds take the same bits, and less than the third one: found by trying. */
+    private static void kindsOfSameBits() throws DataFormatException {
+        for (long seed : new long[] {523, 2139, 2355, 2809}) {
+            byte[] bytes = drawn(seed);
+            whole("stored as well as made, " + seed, bytes, 0, false);
+            BlockPacker x = Rows.packerOf(bytes);
+            x.pack(0, false);
+            Due.same("stored as well as made, " + seed + ": told(1)", x.told(1), 1);
+        }
+        for (long seed : new long[] {33, 304, 537, 1124}) {
+            byte[] bytes = drawn(seed);
+            whole("fixed as well as made, " + seed, bytes, 0, false);
+            BlockPacker x = Rows.packerOf(bytes);
+            x.pack(0, false);
+            Due.same("fixed as well as made, " + seed + ": told(2)", x.told(2), 1);
+        }
+    }
+
+    private static byte[] drawn(long seed) {
+        Random random = new Random(seed);
+        byte[] bytes = new byte[20 + random.nextInt(120)];
+        int letters = 2 + random.nextInt(200);
+        int draws = random.nextInt(3);
+        for (int i = 0; i < bytes.length; i++) {
+            int b = random.nextInt(letters);
+            for (int k = 0; k < draws; k++) {
+                b = Math.min(b, random.nextInt(letters));
+            }
+            bytes[i] = (byte) (b + (seed % 2 == 0 ? 0 : 100));
+        }
+        return bytes;
+    }
+
     private static void longCodes() throws DataFormatException {
-        // Counts that grow as quickly as they can make codes that would be longer than the limit.
+        // With the one of 256 the counts are 1 1 2 3 5 .. 987: the rarest have codes of as many bits as can be.
         byte[] bytes = new byte[4096];
         int at = 0;
         int one = 1;
-        int two = 1;
-        for (int s = 0; s < 17 && at < 4096; s++) {
-            int n = Math.min(4096 - at, one);
-            Arrays.fill(bytes, at, at + n, (byte) (s * 3));
-            at += n;
+        int two = 2;
+        for (int s = 0; s < 15; s++) {
+            Arrays.fill(bytes, at, at + one, (byte) (s * 3));
+            at += one;
             int sum = one + two;
             one = two;
             two = sum;
         }
-        whole("counts of Fibonacci", Arrays.copyOf(bytes, at), 0, false);
+        bytes = Arrays.copyOf(bytes, at);
+        whole("counts of Fibonacci", bytes, 0, false);
+        BlockPacker rare = Rows.packerOf(bytes);
+        rare.pack(0, false);
+        Due.same("the rarest one's length", rare.length(0, 0), 15);
+        Due.same("the length of 256", rare.length(0, 256), 15);
         byte[] doubled = new byte[8192];
-        Arrays.fill(doubled, (byte) 200);
         for (int i = 0; i < 8192; i++) {
             int place = i % 4096;
             doubled[i] = (byte) (Integer.numberOfTrailingZeros(place | 4096) * 5);

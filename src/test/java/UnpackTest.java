@@ -94,13 +94,14 @@ public final class UnpackTest {
         fault("kind 3 behind another", Bits.packed().start(0, 0).stored(five).start(0, 3), KIND, 8 * 12 + 3);
         fault("lengths don't fit", Bits.packed().start(1, 0).pad(0).number(5, 16).number(65531, 16), LENGTH, 56);
         fault("lengths half there", Bits.packed().start(1, 0).pad(0).number(5, 16).number(255, 8), SHORT, 48);
-        fault("a byte missing", Bits.packed().start(1, 0).pad(0).number(2, 16).number(65533, 16).number(7, 8), SHORT, 64);
+        fault("a byte missing", Bits.packed().start(1, 0).pad(0).number(2, 16).number(65533, 16).number(7, 8),
+            SHORT, 64);
     }
 
     private static void fixedBlocks() {
         byte[] abc = {97, 98, 99, 97, 98, 99, 97, 98};
-        due("fixed", Bits.packed().start(1, 1).fixed(97).fixed(98).fixed(99).fixed(259).code(2, 5).fixed(256).check(abc),
-            8, 8 * (2 + 6 + 4));
+        due("fixed", Bits.packed().start(1, 1).fixed(97).fixed(98).fixed(99).fixed(259).code(2, 5).fixed(256)
+            .check(abc), 8, 8 * (2 + 6 + 4));
         Bits wide = Bits.packed().start(1, 1);
         byte[] all = new byte[256];
         for (int b = 0; b < 256; b++) {
@@ -132,23 +133,17 @@ public final class UnpackTest {
     }
 
     private static void distanceOf(int d, int more) {
-        int distance = Reference.farBase(d) + more;
-        if (distance > 8188) {
-            return;
-        }
-        byte[] bytes = new byte[distance + 3];
-        new Random(d).nextBytes(bytes);
-        byte[] first = Arrays.copyOf(bytes, distance);
-        System.arraycopy(bytes, 0, bytes, distance, distance < 3 ? 0 : 3);
+        // With what stands round them, so many stored bytes just have room in the input.
+        int distance = Math.min(Reference.farBase(d) + more, 8160);
+        byte[] first = new byte[distance];
+        new Random(d).nextBytes(first);
+        byte[] bytes = Arrays.copyOf(first, distance + 3);
         for (int i = distance; i < bytes.length; i++) {
             bytes[i] = bytes[i - distance];
         }
-        if (distance > 8000) {
-            return;
-        }
         Bits row = Bits.packed().start(0, 0).stored(first).start(1, 1).fixed(257).code(d, 5)
-            .number(more, Reference.farExtra(d)).fixed(256).check(bytes);
-        due("distance " + d + " and " + more, row, bytes.length, row.count());
+            .number(distance - Reference.farBase(d), Reference.farExtra(d)).fixed(256).check(bytes);
+        due("distance " + distance, row, bytes.length, row.count());
     }
 
     private static void counts() {
@@ -157,7 +152,8 @@ public final class UnpackTest {
         fault("d of 30", Bits.packed().start(1, 2).number(29, 5).number(30, 5), COUNT, 29);
         fault("d of 31", Bits.packed().start(1, 2).number(0, 5).number(31, 5), COUNT, 29);
         // 29 + 11 bits: the number behind both is whole, those of the 19 are missing.
-        fault("h and d of 29", Bits.packed().start(1, 2).number(29, 5).number(29, 5).number(0, 4).number(0, 7), SHORT, 40);
+        fault("h and d of 29", Bits.packed().start(1, 2).number(29, 5).number(29, 5).number(0, 4).number(0, 7),
+            SHORT, 40);
         fault("h of 30, d missing", Bits.packed().start(1, 2).number(30, 5), SHORT, 24);
     }
 
@@ -206,8 +202,8 @@ public final class UnpackTest {
         fault("too many among the 19", Bits.packed().made(1, 0, 0, nineteen(0, 1, 1, 1, 2, 7)), CODES, head);
         fault("too few among the 19", Bits.packed().made(1, 0, 0, nineteen(0, 1, 1, 2)), CODES, head);
         fault("one of 2 bits among the 19", Bits.packed().made(1, 0, 0, nineteen(0, 2)), CODES, head);
-        fault("c is 0, 16 and 17 too few", Bits.packed().start(1, 2).number(0, 14).number(1, 3).number(2, 3).number(0, 6),
-            CODES, 16 + 3 + 14 + 12);
+        fault("c is 0, 16 and 17 too few", Bits.packed().start(1, 2).number(0, 14).number(1, 3).number(2, 3)
+            .number(0, 6), CODES, 16 + 3 + 14 + 12);
         // One code of one bit alone is allowed; its other bit is no beginning of a code.
         fault("one of 1 bit, its other bit", Bits.packed().made(1, 0, 0, nineteen(18, 1)).code("1"), CODE, head + 1);
         fault("one of 1 bit, then no 256", Bits.packed().made(1, 0, 0, nineteen(18, 1)).code("0").number(127, 7)
@@ -300,8 +296,10 @@ public final class UnpackTest {
 
     private static void far() {
         fault("a distance of 1 at first", Bits.packed().start(1, 1).fixed(257).code(0, 5), FAR, 19 + 7 + 5);
-        fault("a distance of 2 behind one", Bits.packed().start(1, 1).fixed(9).fixed(257).code(1, 5), FAR, 19 + 8 + 7 + 5);
-        fault("a distance of 6", Bits.packed().start(1, 1).fixed(9).fixed(257).code(4, 5).number(1, 1), FAR, 19 + 8 + 7 + 6);
+        fault("a distance of 2 behind one", Bits.packed().start(1, 1).fixed(9).fixed(257).code(1, 5),
+            FAR, 19 + 8 + 7 + 5);
+        fault("a distance of 6", Bits.packed().start(1, 1).fixed(9).fixed(257).code(4, 5).number(1, 1),
+            FAR, 19 + 8 + 7 + 6);
         for (int window = 0; window <= 4; window++) {
             int most = 256 << window;
             byte[] bytes = new byte[most + 10];
@@ -344,7 +342,8 @@ public final class UnpackTest {
             x.unpack();
             Due.same("full: size(1)", x.size(1), 8192);
         }
-        Bits over = Bits.packed().start(0, 0).stored(new byte[8100]).start(1, 1).fixed(279).number(0, 4).code(0, 5).number(0, 9);
+        Bits over = Bits.packed().start(0, 0).stored(new byte[8100]).start(1, 1).fixed(279).number(0, 4).code(0, 5)
+            .number(0, 9);
         fault("a match over the end of room", over, FULL, over.count() - 9);
         Bits far = Bits.packed().start(0, 0).stored(new byte[8100]).start(1, 1).fixed(276).number(7, 3).code(0, 5)
             .fixed(270).number(3, 2).code(0, 5).fixed(285).code(26, 5).number(0, 12);
@@ -445,7 +444,8 @@ public final class UnpackTest {
 
     /** What was read and told stays until the next unpack(), whatever else is called. */
     private static void stays() {
-        byte[] row = Bits.packed().start(1, 1).fixed(97).fixed(257).code(0, 5).fixed(256).check(new byte[] {97, 97, 97, 97}).bytes();
+        byte[] row = Bits.packed().start(1, 1).fixed(97).fixed(257).code(0, 5).fixed(256)
+            .check(new byte[] {97, 97, 97, 97}).bytes();
         BlockPacker x = Rows.packerOf(row);
         Due.same("unpack()", x.unpack(), 4);
         x.cut(3);
