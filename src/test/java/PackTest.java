@@ -1,10 +1,9 @@
 import java.util.Arrays;
 import java.util.Random;
 import java.util.zip.DataFormatException;
-import java.util.zip.Inflater;
 
 /** Promises 9, 12 (of packing) and 13: pack, told and length. */
-public final class PackTest {
+public final class PackTest extends PackDue {
     private static final int[] CHAINS = {0, 1, 2, 8, 128};
 
     public static void main(String[] args) throws DataFormatException {
@@ -18,62 +17,11 @@ public final class PackTest {
         Due.end();
     }
 
-    /** All that pack() makes and tells is what the document's words make; what it makes can be unpacked. */
-    private static void whole(String name, byte[] input, int chain, boolean lazy) throws DataFormatException {
-        String call = name + ", " + input.length + " bytes: pack(" + chain + ", " + lazy + ")";
-        BlockPacker x = Rows.packerOf(input);
-        Reference.Packed want = Reference.pack(input, chain, lazy);
-        Due.same(call, x.pack(chain, lazy), want.bytes.length);
-        Due.same(call + " made", Rows.content(x, 1), want.bytes);
-        Due.same(call + " left the input", Rows.content(x, 0), input);
-        for (int k = 0; k < 6; k++) {
-            Due.same(call + " told(" + k + ")", x.told(k), want.told[k]);
-        }
-        for (int s = 0; s < 286; s++) {
-            Due.same(call + " length(0, " + s + ")", x.length(0, s), want.symbolLengths[s]);
-        }
-        for (int d = 0; d < 30; d++) {
-            Due.same(call + " length(1, " + d + ")", x.length(1, d), want.farLengths[d]);
-        }
-        Due.same(call + " inflated", inflated(want.bytes), input);
-        if (want.bytes.length <= 8192) {
-            x.take();
-            Due.same(call + " unpack()", x.unpack(), input.length);
-            Due.same(call + " unpacked", Rows.content(x, 1), input);
-            Due.same(call + " read()", x.read(), 8L * want.bytes.length);
-            Due.same(call + " told(6)", x.told(6), want.told[0]);
-        }
-    }
-
-    private static byte[] inflated(byte[] packed) throws DataFormatException {
-        Inflater inflater = new Inflater();
-        inflater.setInput(packed);
-        byte[] bytes = new byte[10000];
-        int n = inflater.inflate(bytes);
-        Due.holds("the JDK's inflater comes to an end", inflater.finished() && inflater.getRemaining() == 0);
-        inflater.end();
-        return Arrays.copyOf(bytes, n);
-    }
-
     private static void all(String name, byte[] input) throws DataFormatException {
         for (int chain : CHAINS) {
             whole(name, input, chain, false);
             whole(name, input, chain, true);
         }
-    }
-
-    private static byte[] text(String text) {
-        byte[] bytes = new byte[text.length()];
-        for (int i = 0; i < bytes.length; i++) {
-            bytes[i] = (byte) text.charAt(i);
-        }
-        return bytes;
-    }
-
-    private static byte[] even(int size, long seed) {
-        byte[] bytes = new byte[size];
-        new Random(seed).nextBytes(bytes);
-        return bytes;
     }
 
     private static void edges() throws DataFormatException {
@@ -159,21 +107,6 @@ public final class PackTest {
             x.pack(0, false);
             Due.same("fixed as well as made, " + seed + ": told(2)", x.told(2), 1);
         }
-    }
-
-    private static byte[] drawn(long seed) {
-        Random random = new Random(seed);
-        byte[] bytes = new byte[20 + random.nextInt(120)];
-        int letters = 2 + random.nextInt(200);
-        int draws = random.nextInt(3);
-        for (int i = 0; i < bytes.length; i++) {
-            int b = random.nextInt(letters);
-            for (int k = 0; k < draws; k++) {
-                b = Math.min(b, random.nextInt(letters));
-            }
-            bytes[i] = (byte) (b + (seed % 2 == 0 ? 0 : 100));
-        }
-        return bytes;
     }
 
     private static void longCodes() throws DataFormatException {

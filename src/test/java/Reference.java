@@ -136,6 +136,8 @@ final class Reference {
         final int[] told = new int[6];
         int[] symbolLengths;
         int[] farLengths;
+        /** How many bits the last block takes as stored, fixed and made. */
+        final int[] bits = new int[3];
     }
 
     static Packed pack(byte[] input, int chain, boolean lazy) {
@@ -176,6 +178,9 @@ final class Reference {
         StringBuilder made = new StringBuilder();
         tale(packed.symbolLengths, packed.farLengths, made);
         symbols(found, codes(packed.symbolLengths), codes(packed.farLengths), made);
+        packed.bits[0] = stored;
+        packed.bits[1] = 3 + fixed.length();
+        packed.bits[2] = 3 + made.length();
         packed.told[0]++;
         if (stored <= 3 + fixed.length() && stored <= 3 + made.length()) {
             packed.told[1]++;
@@ -344,6 +349,8 @@ final class Reference {
         int read = 0;
         int blocks = 0;
         int matches = 0;
+        /** Each part of the row in words, as far as it was read. */
+        final List<String> parts = new ArrayList<>();
 
         int answer() {
             return fault == 0 ? made.size() : -10 - fault;
@@ -412,9 +419,15 @@ final class Reference {
         }
 
         void toByte() throws Fault {
+            String bits = "";
             while (result.read % 8 != 0) {
-                bit();
+                bits += bit();
             }
+            part("up to a byte " + bits);
+        }
+
+        void part(String words) {
+            result.parts.add(words);
         }
 
         int symbol(Codes codes) throws Fault {
@@ -447,6 +460,7 @@ final class Reference {
                 last = bit() == 1;
                 result.blocks++;
                 int kind = number(2);
+                part("block " + (last ? 1 : 0) + " kind " + kind);
                 if (kind == 3) {
                     throw new Fault(3);
                 }
@@ -477,6 +491,7 @@ final class Reference {
             if (number(16) != 65535 - n) {
                 throw new Fault(4);
             }
+            part("stored " + n);
             for (int i = 0; i < n; i++) {
                 make(number(8));
             }
@@ -489,6 +504,7 @@ final class Reference {
                     throw new Fault(8);
                 }
                 if (s < 256) {
+                    part("byte " + s);
                     make(s);
                 } else {
                     match(s, farCodes);
@@ -508,6 +524,7 @@ final class Reference {
             if (distance > result.made.size() || distance > farthest) {
                 throw new Fault(9);
             }
+            part("match " + length + " " + distance + " by " + s + " " + d);
             for (int i = 0; i < length; i++) {
                 make(result.made.get(result.made.size() - distance));
             }
@@ -524,6 +541,8 @@ final class Reference {
             for (int i = 0; i < c + 4; i++) {
                 lengths[ORDER[i]] = number(3);
             }
+            part("h " + h + " d " + d + " c " + c);
+            part("nineteen " + java.util.Arrays.toString(lengths));
             mustFit(lengths, false);
             int[] row = lengths(new Codes(lengths), h + 257 + d + 1);
             int[] symbols = java.util.Arrays.copyOfRange(row, 0, h + 257);
@@ -556,6 +575,7 @@ final class Reference {
                 if (n + times > due) {
                     throw new Fault(6);
                 }
+                part("told " + s + (s < 16 ? "" : "+" + (times - (s == 18 ? 11 : 3))) + " from " + n);
                 for (int i = 0; i < times; i++) {
                     row[n++] = length;
                 }

@@ -32,6 +32,24 @@ final class Rows {
         return bytes;
     }
 
+    /** Bytes of which no three in a row come twice. */
+    static byte[] unlike(int size, long seed) {
+        Random random = new Random(seed);
+        byte[] bytes = new byte[size];
+        boolean[] seen = new boolean[1 << 24];
+        int three = 0;
+        for (int i = 0; i < size; i++) {
+            int b = random.nextInt(256);
+            while (i >= 2 && seen[(three << 8 | b) & 0xFFFFFF]) {
+                b = random.nextInt(256);
+            }
+            bytes[i] = (byte) b;
+            three = (three << 8 | b) & 0xFFFFFF;
+            seen[three] |= i >= 2;
+        }
+        return bytes;
+    }
+
     /** Rows of many kinds: even bytes, few letters, runs, repetitions from far and near, rare bytes. */
     static byte[] made(Random random, int size) {
         byte[] bytes = new byte[size];

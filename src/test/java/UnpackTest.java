@@ -3,11 +3,7 @@ import java.util.Random;
 import java.util.zip.Deflater;
 
 /** Promises 10, 11 and 12 (of unpacking): unpack, read and told. */
-public final class UnpackTest {
-    private static final int HEAD = 1, SHORT = 2, KIND = 3, LENGTH = 4, COUNT = 5, REPEAT = 6, CODES = 7;
-    private static final int CODE = 8, FAR = 9, FULL = 10, CHECK = 11, REST = 12;
-    private static final byte[] NOTHING = new byte[0];
-
+public final class UnpackTest extends UnpackDue {
     public static void main(String[] args) {
         heads();
         tooShort();
@@ -25,34 +21,6 @@ public final class UnpackTest {
         madeUp();
         stays();
         Due.end();
-    }
-
-    /** The answer, the bits read and what was made are as told here, and all is as the reference has it. */
-    private static void due(String name, Bits row, int answer, int read) {
-        due(name, row.bytes(), answer, read);
-    }
-
-    private static void due(String name, byte[] row, int answer, int read) {
-        BlockPacker x = Rows.packerOf(row);
-        Due.same(name + ": unpack()", x.unpack(), answer);
-        Due.same(name + ": read()", x.read(), read);
-        asReference(name, row);
-    }
-
-    private static void fault(String name, Bits row, int fault, int read) {
-        due(name, row, -10 - fault, read);
-    }
-
-    private static int asReference(String name, byte[] row) {
-        BlockPacker x = Rows.packerOf(row);
-        Reference.Unpacked want = Reference.unpack(row);
-        Due.same(name + ": unpack()", x.unpack(), want.answer());
-        Due.same(name + ": read()", x.read(), want.read);
-        Due.same(name + ": told(6)", x.told(6), want.blocks);
-        Due.same(name + ": told(7)", x.told(7), want.matches);
-        Due.same(name + ": made", Rows.content(x, 1), want.bytes());
-        Due.same(name + ": the input", Rows.content(x, 0), row);
-        return want.fault;
     }
 
     private static void heads() {
@@ -157,14 +125,6 @@ public final class UnpackTest {
         fault("h of 30, d missing", Bits.packed().start(1, 2).number(30, 5), SHORT, 24);
     }
 
-    private static int[] nineteen(int... pairs) {
-        int[] lengths = new int[19];
-        for (int i = 0; i < pairs.length; i += 2) {
-            lengths[pairs[i]] = pairs[i + 1];
-        }
-        return lengths;
-    }
-
     private static void repeats() {
         // 0 has the code 0, 1 has 10, 16 has 110, 18 has 111.
         int[] codes = nineteen(0, 1, 1, 2, 16, 3, 18, 3);
@@ -212,28 +172,6 @@ public final class UnpackTest {
             CODES, head + 258);
         fault("c is 0, 18 alone", Bits.packed().start(1, 2).number(0, 14).number(0, 6).number(1, 3).number(0, 3)
             .code("1"), CODE, 16 + 3 + 14 + 12 + 1);
-    }
-
-    /** A made block of these lengths (as few as 4 bits tell each of 0 .. 15) up to its symbols. */
-    private static Bits lengths(int[] symbols, int[] distances) {
-        int[] codes = new int[19];
-        Arrays.fill(codes, 0, 16, 4);
-        Bits row = Bits.packed().made(1, symbols.length - 257, distances.length - 1, codes);
-        for (int length : symbols) {
-            row.code(length, 4);
-        }
-        for (int length : distances) {
-            row.code(length, 4);
-        }
-        return row;
-    }
-
-    private static int[] symbols(int n, int... pairs) {
-        int[] lengths = new int[n];
-        for (int i = 0; i < pairs.length; i += 2) {
-            lengths[pairs[i]] = pairs[i + 1];
-        }
-        return lengths;
     }
 
     private static void madeCodes() {
