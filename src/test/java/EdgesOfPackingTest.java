@@ -1,4 +1,6 @@
+import java.util.ArrayList;
 import java.util.Arrays;
+import java.util.Collections;
 import java.util.List;
 import java.util.Random;
 import java.util.zip.DataFormatException;
@@ -38,12 +40,15 @@ public final class EdgesOfPackingTest extends PackDue {
         symbolBeforePairs();
         pairsInTheirOrder();
         limit15();
+        limit15Binds();
+        limit15BindsOthers();
         limit7();
         smallestH();
         smallestD();
         smallestC();
         stretchesOfZeros();
         stretchesOfOthers();
+        longTale();
         stretchOverTheBorder();
         storedAsFixed();
         storedAsMade();
@@ -541,13 +546,86 @@ public final class EdgesOfPackingTest extends PackDue {
 
     private static void limit15() throws DataFormatException {
         Due.sentence("Terms (9, 13)", "with a limit (15, and 7 for the 19)");
-        // With the one of 256: 1 1 2 3 5 .. 987, as long a code as 4096 bytes can make.
+        // With the one of 256: 1 1 2 3 5 .. 987, which make lengths up to 15 without a limit too.
         byte[] input = fibonacci();
         Due.same("bytes", input.length, 2582);
         BlockPacker x = packed(input, 0, false);
         lengthsAre("counts of Fibonacci", x, 256, 15, 0, 15, 1, 14, 2, 13, 3, 12, 4, 11, 5, 10, 6, 9, 7, 8, 8, 7, 9, 6,
             10, 5, 11, 4, 12, 3, 13, 2, 14, 1);
         whole("counts of Fibonacci", input, 0, false);
+    }
+
+    /**
+     * How often bytes from 0 on come: each as often as all before the one before it and the 256, and more times more.
+     * With one more each time, just the two rarest items can be paired, whatever was paired before.
+     */
+    private static int[] deepCounts(int[] more) {
+        int[] counts = new int[16];
+        counts[0] = 1;
+        counts[1] = 1;
+        int before = 2;
+        for (int s = 2; s < 16; s++) {
+            counts[s] = before + more[s];
+            before += counts[s - 1];
+        }
+        return counts;
+    }
+
+    private static int[] ones() {
+        int[] ones = new int[16];
+        Arrays.fill(ones, 1);
+        return ones;
+    }
+
+    private static byte[] bytesOf(int[] counts) {
+        byte[] bytes = new byte[0];
+        for (int s = 0; s < counts.length; s++) {
+            bytes = joined(bytes, many(counts[s], s));
+        }
+        return bytes;
+    }
+
+    private static void limit15Binds() throws DataFormatException {
+        Due.sentence("Terms (9, 13)", "with a limit (15, and 7 for the 19): [..] each next one, limit lists in all");
+        byte[] input = bytesOf(deepCounts(ones()));
+        Due.same("bytes", input.length, 3569);
+        BlockPacker x = packed(input, 0, false);
+        Due.same("a made block", x.told(3), 1);
+        // Without a limit they would be 16 16 15 14 .. 1.
+        lengthsAre("counts that want 16", x, 0, 15, 1, 15, 256, 14, 2, 13, 3, 12, 4, 11, 5, 10, 6, 9, 7, 8, 8, 7, 9, 6,
+            10, 5, 11, 4, 12, 3, 13, 2, 14, 2, 15, 2);
+        whole("counts that want 16", input, 0, false);
+        // The first byte is the rarest in one block, and the most frequent in the other.
+        byte[] two = joined(joined(input, many(4096 - input.length, 15)), turned(input));
+        whole("two blocks that want 16", two, 0, false);
+    }
+
+    private static void limit15BindsOthers() throws DataFormatException {
+        Due.sentence("Terms (9, 13)", "Of the last list the first 2 m - 2 items are taken");
+        int bound = 0;
+        for (long seed = 0; seed < 40; seed++) {
+            Random random = new Random(seed);
+            int[] more = ones();
+            more[2 + random.nextInt(14)] += random.nextInt(3) - 1;
+            more[10 + random.nextInt(6)] += random.nextInt(9) - 4;
+            int[] counts = deepCounts(more);
+            byte[] input = bytesOf(counts);
+            int[] all = Arrays.copyOf(counts, 286);
+            all[256] = 1;
+            if (Arrays.stream(Reference.lengths(all, 20)).max().orElse(0) > 15) {
+                bound++;
+            }
+            whole("near counts that want 16, " + seed, input, 0, seed % 2 == 0);
+        }
+        Due.holds("rows came that the limit binds", bound >= 3);
+    }
+
+    private static byte[] turned(byte[] bytes) {
+        byte[] turned = new byte[bytes.length];
+        for (int i = 0; i < bytes.length; i++) {
+            turned[i] = (byte) (15 - bytes[i]);
+        }
+        return turned;
     }
 
     private static void limit7() throws DataFormatException {
@@ -672,6 +750,57 @@ public final class EdgesOfPackingTest extends PackDue {
             // Behind them there are zeros, more than 10.
             Due.same(n + " times 4", tale.substring(0, Math.max(tale.indexOf(" 18"), 0)), want[n]);
         }
+    }
+
+    /** All bytes, mixed, each as often as its place among four tells: side by side there are hardly the same lengths. */
+    private static List<Integer> uneven(int[] four, double part, Random random) {
+        List<Integer> bytes = new ArrayList<>();
+        for (int b = 0; b < 256; b++) {
+            for (int k = 0; k < Math.max(1, four[b % 4] * part); k++) {
+                bytes.add(b);
+            }
+        }
+        Collections.shuffle(bytes, random);
+        return bytes;
+    }
+
+    /** These bytes, and behind some of them repetitions of all lengths from near and far: of one block. */
+    private static byte[] repeating(List<Integer> bytes, int every, Random random) {
+        byte[] row = new byte[4096];
+        int n = 0;
+        for (int i = 0; i < bytes.size() && n < row.length; i++) {
+            row[n] = (byte) (int) bytes.get(i);
+            n++;
+            boolean repeats = n > 10 && random.nextInt(every) == 0;
+            int length = repeats ? 3 + (int) (120 * StrictMath.pow(random.nextDouble(), 4)) : 0;
+            int distance = (int) StrictMath.pow(n, random.nextDouble());
+            for (int end = Math.min(n + length, row.length); n < end; n++) {
+                row[n] = row[n - distance];
+            }
+        }
+        return Arrays.copyOf(row, n);
+    }
+
+    private static void longTale() throws DataFormatException {
+        Due.sentence("Terms (9)", "the row of lengths (those of symbols and distances together) is told so: [..] others"
+            + " once, [..] then one by one");
+        int[][] fours = {{32, 16, 8, 4}, {32, 8, 16, 4}, {40, 1, 16, 2}, {45, 2, 12, 1}, {30, 1, 30, 1}};
+        for (int[] four : fours) {
+            byte[] input = repeating(uneven(four, 1, new Random(1)), Integer.MAX_VALUE, new Random(1));
+            String name = "bytes " + Arrays.toString(four) + " times";
+            Due.same(name + ", made", packed(input, 0, false).told(3), 1);
+            Due.same(name + ", all of 258 by themselves", tale(input).split(" ").length, 258);
+            whole(name, input, 0, false);
+        }
+        int most = 0;
+        for (int seed = 0; seed < 15; seed++) {
+            Random random = new Random(seed);
+            List<Integer> bytes = uneven(fours[seed % 5], 0.3 + 0.6 * random.nextDouble(), random);
+            byte[] input = repeating(bytes, 4 + random.nextInt(20), random);
+            most = Math.max(most, only(parts(input, 128, false), "told").split(" from ").length - 1);
+            whole("with matches, " + seed, input, 128, false);
+        }
+        Due.holds("nearly all that there can be, " + most, most > 290);
     }
 
     private static void stretchOverTheBorder() {

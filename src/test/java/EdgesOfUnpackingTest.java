@@ -65,6 +65,7 @@ public final class EdgesOfUnpackingTest extends UnpackDue {
         codesBehindTheLast();
         noBeginningOfACode();
         noCodeAtAll();
+        noCodeAtAllBehindOthers();
         symbolAbove285();
         distanceAbove29();
         farBeyondTheFirst();
@@ -937,6 +938,27 @@ public final class EdgesOfUnpackingTest extends UnpackDue {
         }
         row.code("11");
         fault("a match without distances at the row's end", row, CODE, row.count());
+    }
+
+    private static void noCodeAtAllBehindOthers() {
+        Due.sentence("Terms (10, 11)", "(or there is none at all: then no bit is read), behind a block that has some");
+        int[] three = symbols(258, 0, 1, 256, 2, 257, 2);
+        int[][] before = {{1}, {1, 1}, {2, 2, 2, 2}, {1, 2, 3, 4, 5, 6, 7, 8, 9, 10, 11, 12, 13, 14, 15, 15}};
+        for (int[] distances : before) {
+            String name = distances.length + " distances, then none";
+            Bits row = lengths(Bits.packed(), 0, three, distances).code("0").code("10");
+            lengths(row, 1, three, new int[] {0}).code("0").code("11");
+            leaves(name, row, -10 - CODE, row.count(), 2, 1, bytes(0, 0));
+            here(name, row, CODE);
+            // The block that has some may also be one of an unpack() before.
+            BlockPacker x = Rows.packerOf(lengths(three, distances).code("0").code("10").check(bytes(0)).bytes());
+            Due.same(name + ", the first unpack()", x.unpack(), 1);
+            row = lengths(three, new int[] {0}).code("0").code("11");
+            int read = row.count();
+            Rows.give(x, row.number(-1, 32).bytes());
+            Due.same(name + ", the second unpack()", x.unpack(), -10 - CODE);
+            Due.same(name + ", read() of the second", x.read(), read);
+        }
     }
 
     private static void symbolAbove285() {

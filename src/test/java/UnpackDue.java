@@ -54,11 +54,16 @@ abstract class UnpackDue {
         return lengths;
     }
 
-    /** A made block of these lengths (as few as 4 bits tell each of 0 .. 15) up to its symbols. */
+    /** A row of one made block of these lengths, up to its symbols. */
     static Bits lengths(int[] symbols, int[] distances) {
+        return lengths(Bits.packed(), 1, symbols, distances);
+    }
+
+    /** Behind the row a made block of these lengths (as few as 4 bits tell each of 0 .. 15) up to its symbols. */
+    static Bits lengths(Bits row, int first, int[] symbols, int[] distances) {
         int[] codes = new int[19];
         Arrays.fill(codes, 0, 16, 4);
-        Bits row = Bits.packed().made(1, symbols.length - 257, distances.length - 1, codes);
+        row.made(first, symbols.length - 257, distances.length - 1, codes);
         for (int length : symbols) {
             row.code(length, 4);
         }
