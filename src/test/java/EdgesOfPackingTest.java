@@ -51,6 +51,7 @@ public final class EdgesOfPackingTest extends PackDue {
         longTale();
         stretchOverTheBorder();
         storedAsFixed();
+        storedAsFixedWithAMatch();
         storedAsMade();
         storedWithTheBitsBefore();
         fixedAsMade();
@@ -833,6 +834,59 @@ public final class EdgesOfPackingTest extends PackDue {
         Due.same("bits, stored", same.bits[0], 280);
         Due.same("bits, fixed", same.bits[1], 280);
         Due.holds("more bits, made", same.bits[2] > 280);
+    }
+
+    /**
+     * Bytes of 9 bits and of 8 bits in a fixed block, mixed, and behind them just one match. Those that come more
+     * often stand apart, so that the lengths of a made block take many bits.
+     */
+    private static byte[] oneMatch(int nines, int eights, int length, int distance) {
+        int singles = nines + eights;
+        for (long seed = 0; seed < 100; seed++) {
+            List<Byte> mixed = new ArrayList<>();
+            for (int i = 0; i < singles; i++) {
+                mixed.add((byte) (i < nines ? 144 + 37 * i % 112 : 61 * i % 144));
+            }
+            Collections.shuffle(mixed, new Random(seed));
+            byte[] bytes = new byte[singles + length];
+            for (int i = 0; i < bytes.length; i++) {
+                bytes[i] = i < singles ? mixed.get(i) : bytes[i - distance];
+            }
+            int[] told = Reference.pack(bytes, 128, false).told;
+            if (told[4] == 1 && told[5] == singles) {
+                return bytes;
+            }
+        }
+        return new byte[0];
+    }
+
+    private static void storedAsFixedWithAMatch() {
+        Due.sentence("Terms (9)", "A block is stored, if that takes no more bits [..] than the others; its base and as much"
+            + " as a number of e bits behind it tells");
+        for (int length = 3; length <= 36; length++) {
+            int e = length < 11 ? 0 : length < 19 ? 1 : length < 35 ? 2 : 3;
+            for (int distance : new int[] {1, 2, 4, 5, 8, 9, 16, 17, 32, 33, 64, 65, 128, 129, 200}) {
+                int farE = distance < 5 ? 0 : bitsOf(distance - 1) - 2;
+                // 3 + 5 + 32 + 8 for each byte and the length, or 3 + 8 or 9 for each byte, the match and 7 at the end.
+                int nines = 30 + 8 * length - (7 + e + 5 + farE);
+                String name = "a match " + length + " " + distance;
+                same(name + ", one bit less fixed", oneMatch(nines - 1, 200, length, distance), -1);
+                same(name + ", as many bits", oneMatch(nines, 200, length, distance), 0);
+                same(name + ", one bit more fixed", oneMatch(nines + 1, 200, length, distance), 1);
+            }
+        }
+    }
+
+    private static int bitsOf(int number) {
+        return 32 - Integer.numberOfLeadingZeros(number);
+    }
+
+    /** Fixed takes so many bits more than stored, and made more than both. */
+    private static void same(String name, byte[] input, int more) {
+        Reference.Packed want = Reference.pack(input, 128, false);
+        Due.same(name + ": bits", want.bits[1] - want.bits[0], more);
+        Due.holds(name + ": more bits, made", want.bits[2] > Math.max(want.bits[0], want.bits[1]));
+        kinds(name, packed(input, 128, false), more < 0 ? 0 : 1, more < 0 ? 1 : 0, 0);
     }
 
     private static void storedAsMade() {

@@ -16,6 +16,7 @@ public final class EdgesOfRowsTest {
         feedFull();
         fillSteady();
         fillBitsOfX();
+        fillBitsBeside();
         fillWrapsAround();
         fillFourLetters();
         fillAlsoWhatIsPut();
@@ -191,6 +192,30 @@ public final class EdgesOfRowsTest {
         // 1103515245 + 12345 is 0x41C69E6D + 0x3039.
         Due.same("fill(1, 1, 1)", x.fill(1, 1, 1), 5);
         hasBytes(x, 4, 0xC6);
+    }
+
+    /** The seed whose first x is this one: what 1103515245 and 12345 do is undone. */
+    private static int seedFor(int x) {
+        int inverse = 1103515245;
+        for (int i = 0; i < 5; i++) {
+            inverse *= 2 - 1103515245 * inverse;
+        }
+        return (x - 12345) * inverse;
+    }
+
+    private static void fillBitsBeside() {
+        Due.sentence("3 fill", "1 the bits 16 .. 23 of x [..] 2 the same, but 97 more than the bits 16 and 17");
+        int[] values = {0, 0xFFFF, 0x10000, 0x1FFFF, 0x20000, 0x3FFFF, 0x40000, 0x7FFFFF, 0x800000, 0xFFFFFF, 0x1000000,
+            0xFF00FFFF, 0xFF030000, 0x7FFFFFFF, 0x80000000, 0x8000FFFF, 0xFFFFFFFF};
+        int[] want = {0, 0, 1, 1, 2, 3, 4, 127, 128, 255, 0, 0, 3, 255, 0, 0, 255};
+        for (int i = 0; i < values.length; i++) {
+            int seed = seedFor(values[i]);
+            Due.same("x of the seed " + seed, 1103515245 * seed + 12345, values[i]);
+            BlockPacker x = new BlockPacker();
+            Due.same("fill(1, " + seed + ", 1)", x.fill(1, seed, 1), 1);
+            Due.same("fill(2, " + seed + ", 1)", x.fill(2, seed, 1), 2);
+            hasBytes(x, 0, want[i], 97 + want[i] % 4);
+        }
     }
 
     private static void fillWrapsAround() {

@@ -66,6 +66,8 @@ public final class EdgesOfUnpackingTest extends UnpackDue {
         noBeginningOfACode();
         noCodeAtAll();
         noCodeAtAllBehindOthers();
+        shortBeforeNoCode();
+        shortBeforeRepeat();
         symbolAbove285();
         distanceAbove29();
         farBeyondTheFirst();
@@ -958,6 +960,33 @@ public final class EdgesOfUnpackingTest extends UnpackDue {
             Rows.give(x, row.number(-1, 32).bytes());
             Due.same(name + ", the second unpack()", x.unpack(), -10 - CODE);
             Due.same(name + ", read() of the second", x.read(), read);
+        }
+    }
+
+    private static void shortBeforeNoCode() {
+        Due.sentence("Terms (10)", "stops at the first FAULT: [..] SHORT (2): bits are missing. [..] (or there is none at"
+            + " all: then no bit is read)");
+        // A length's number comes before the distance: where both are missing, the bits are first.
+        int[] one = symbols(266, 0, 1, 256, 2, 265, 2);
+        missing("the bit of 265, and no distances", lengths(one, new int[1]).code("11"), 1, 1, NOTHING);
+        int[] five = symbols(282, 0, 1, 256, 2, 281, 2);
+        missing("the bits of 281, and no distances", lengths(five, new int[1]).code("11"), 1, 1, NOTHING);
+        for (int there = 1; there <= 4; there++) {
+            Bits row = lengths(five, new int[1]).code("0".repeat(8 - there)).code("11").number(-1, there);
+            missing("bits of 281 behind " + there + ", and no distances", row, 1, 1, new byte[8 - there]);
+        }
+    }
+
+    private static void shortBeforeRepeat() {
+        Due.sentence("Terms (10)", "stops at the first FAULT: [..] SHORT (2): bits are missing. [..] more lengths than"
+            + " there are to be (behind its number)");
+        for (int left = 1; left <= 11; left++) {
+            for (int there = 0; there <= 6; there++) {
+                int zeros = 7 - there;
+                Bits row = tale(0).code("111").number(127, 7).code("111").number(258 - 138 - 11 - zeros - left, 7);
+                row.code("0".repeat(zeros)).code("111").number(0, there);
+                missing("an 18 where " + left + " are left, " + there + " bits of its number", row, 1, 0, NOTHING);
+            }
         }
     }
 
